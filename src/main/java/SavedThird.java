@@ -1021,8 +1021,7 @@ public final class SavedThird {
         }
 
         /** The line that HOLDS, NONE without one. */
-        private int holding(int rule, int key, int month) {
-            int group = groupOf(rule);
+        private int holding(int group, int key, int month) {
             int found = NONE;
             int latest = -1;
             for (int i = 0; i < count && i < MAX_LINES; i++) {
@@ -1037,7 +1036,7 @@ public final class SavedThird {
 
         /** NONE too, if the line that HOLDS is the group's other rule. */
         private int valueOf(int rule, int key, int month) {
-            int line = holding(rule, key, month);
+            int line = holding(groupOf(rule), key, month);
             if (line < 0 || line >= MAX_LINES || rules[line] != rule) {
                 return NONE;
             }

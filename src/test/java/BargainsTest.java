@@ -82,6 +82,8 @@ public final class BargainsTest {
         Check.faulty(x, "  7", 2, 2);
         Check.faulty(x, "shares 0 3;", 2, 0);
         Check.faulty(x, "shar 0 3;", 2, 0);
+        Check.faulty(x, "zhare 0 3;", 2, 0);
+        Check.faulty(x, "sharz 0 3;", 2, 0);
         Check.faulty(x, "share a 3;", 2, 6);
         Check.faulty(x, "share 0 a;", 2, 8);
         Check.faulty(x, "share 0;", 2, 7);
@@ -135,6 +137,7 @@ public final class BargainsTest {
         Check.faulty(x, "wide;wide;", 5, 5);
         Check.faulty(x, "from 9 narrow;from 9 wide;", 5, 21);
         Check.told(x, "wide;from 9 wide;", 2);
+        Check.told(x, "share 0 1;stop 0 1;again 0 1;part a 1;wide;", 5);
     }
 
     private static void tooManyLines() {
@@ -164,6 +167,10 @@ public final class BargainsTest {
         Check.faulty(x, "part a 3;part a", 5, 14);
         Check.faulty(x, "part a 3;part a 99;", 5, 14);
         Check.faulty(x, "from 60 !", 3, 5);
+        Check.faulty(x, "from 3 !", 1, 7);
+        Check.faulty(x, "from !", 1, 5);
+        Check.faulty(x, "share !", 1, 6);
+        Check.faulty(x, "share 0 3!", 1, 9);
         Check.faulty(x, "share 12345 3;", 1, 6);
         Check.faulty(x, "12345", 1, 0);
         Check.faulty(x, "third !", 2, 0);

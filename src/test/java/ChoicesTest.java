@@ -51,6 +51,8 @@ public final class ChoicesTest {
         x.water(0, 1, 0);
         Check.due("stopped, but there is no water", x.brings(0, 2, 3, 1000, 0), 2000 - 50 * 6);
         Check.due("goes on", x.brings(0, 0, 3, 1000, 0), 3000 - (50 + 0 + 52) * 6);
+        x.water(0, 1, 1);
+        Check.due("the least water", x.brings(0, 2, 3, 1000, 0), 1000 - 50 * 6);
     }
 
     private static void withoutTrial() {

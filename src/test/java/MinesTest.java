@@ -218,6 +218,10 @@ public final class MinesTest {
         Check.due("still", x.count(0), 60);
         Check.due("wet months", x.at(2, 4), 5);
         Check.due("need of the month that does not go", x.at(0, 3), 5);
+        x = new SavedThird();
+        x.mine(0, 0, 1, 1);
+        x.water(0, 0, 1);
+        Check.due("wet by the least water", x.month(), 1);
     }
 
     private static void whatWas() {
@@ -238,9 +242,15 @@ public final class MinesTest {
         }
         Check.due("now is not yet", x.was(0, 3, 0), -1);
         Check.due("month -1", x.was(0, -1, 0), -1);
+        x.mine(0, 0, 9, 9);
+        for (int month = 0; month < 3; month++) {
+            for (int what = 0; what < 6; what++) {
+                Check.due("a later mine's " + month + ", " + what, x.was(1, month, what), ahead[what]);
+            }
+        }
         Check.due("what 6", x.was(0, 0, 6), -1);
         Check.due("what -1", x.was(0, 0, -1), -1);
-        Check.due("mine 1", x.was(1, 0, 0), -1);
+        Check.due("mine 2", x.was(2, 0, 0), -1);
     }
 
     private static void whatIs() {
@@ -290,17 +300,20 @@ public final class MinesTest {
         SavedThird x = new SavedThird();
         x.mine(0, 0, 10, 1);
         x.mine(0, 0, 10, 1);
-        x.engine(0, 1, 1, 100, 100, 0);
-        x.engine(0, 1, 1, 1, 100, 0);
-        x.engine(1, 1, 1, 1, 100, 0);
         Check.flood(x, 0, 2);
         Check.flood(x, 1, 3);
+        x.engine(0, 1, 1, 1, 100, 0);
+        Check.due("the first works", x.count(3), 1);
+        x.month();
+        Check.due("its coal", x.count(7), 20);
+        x.engine(0, 1, 1, 1, 100, 0);
+        x.engine(1, 1, 1, 1, 100, 0);
         x.month();
         x.read(0);
         x.read(1);
         x.feed(0);
         x.sheet(0, 1, 17);
-        int[] want = {1, 2, 3, 2, 0, 2, 0, 50, 8, 17};
+        int[] want = {2, 2, 3, 2, 0, 2, 0, 70, 8, 17};
         for (int what = 0; what < want.length; what++) {
             Check.due("count(" + what + ")", x.count(what), want[what]);
         }

@@ -314,7 +314,9 @@ public final class SumsTest {
         Check.due("arrears", x.go(0), -2);
         Check.due("no engine", x.go(1), -1);
         Check.due("engine -1", x.go(-1), -1);
-        x.pay(0, 10);
+        x.pay(0, 9);
+        Check.due("a coin of arrears", x.go(0), -2);
+        x.pay(0, 1);
         Check.due("goes", x.go(0), 1);
         Check.due("it is not stopped", x.go(0), -2);
         Check.due("unread all the time", x.at(0, 5), 3);
