@@ -94,8 +94,8 @@ public final class SavedThird {
 
     public int engine(int m, int kind, int load, int duty, int most, int parts) {
         Mine mine = mineOf(m);
-        if (mine == null || !within(kind, 0, PIRATE) || !isLoad(load) || !isLong(duty)
-                || !isLong(most) || !within(parts, 0, 255)) {
+        if (mine == null || !within(kind, 0, PIRATE) || !isLoad(load) || !isFourFigures(duty)
+                || !isFourFigures(most) || !within(parts, 0, 255)) {
             return BAD;
         }
         if (engineCount < 0 || engineCount >= MAX_ENGINES) {
@@ -194,7 +194,7 @@ public final class SavedThird {
 
     public int trial(int m, int s, int l, int c) {
         Mine mine = mineOf(m);
-        if (mine == null || !isLong(s) || !isLoad(l) || !isLong(c)) {
+        if (mine == null || !isFourFigures(s) || !isLoad(l) || !isFourFigures(c)) {
             return BAD;
         }
         mine.trial = new Trial(s, l, c, mine.depth);
@@ -552,7 +552,7 @@ public final class SavedThird {
     }
 
     /** DUTY, MOST, and a TRIAL's strokes and coal have the same bounds. */
-    private static boolean isLong(int v) {
+    private static boolean isFourFigures(int v) {
         return within(v, 1, 9999);
     }
 
