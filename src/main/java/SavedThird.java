@@ -1123,7 +1123,12 @@ public final class SavedThird {
                     return false;
                 }
             }
-            return kind == OVER || refuse(TOO_MANY);
+            return kind == OVER || refuse(canBeginLine() ? TOO_MANY : NOT_HERE);
+        }
+
+        /** Without this no 17th line has begun, and the TOKEN is a wrong one like any other. */
+        private boolean canBeginLine() {
+            return isWord("from") || ruleHere() != NONE;
         }
 
         private boolean refuse(int found) {

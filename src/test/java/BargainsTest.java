@@ -9,6 +9,7 @@ public final class BargainsTest {
         wrongNumbers();
         toldTwice();
         tooManyLines();
+        wrongTokensBehindTheLastLine();
         whichFaultFirst();
         holds();
         askedWrongly();
@@ -140,21 +141,44 @@ public final class BargainsTest {
         Check.told(x, "share 0 1;stop 0 1;again 0 1;part a 1;wide;", 5);
     }
 
-    private static void tooManyLines() {
-        SavedThird x = new SavedThird();
+    private static String sixteenLines() {
         StringBuilder sixteen = new StringBuilder("wide;share 0 1;");
         for (int i = 0; i < 14; i++) {
             sixteen.append(i < 8 ? "part " + "abcdefgh".charAt(i) : "stop " + (i - 8)).append(" 9;");
         }
-        String lines = sixteen.toString();
+        return sixteen.toString();
+    }
+
+    private static void tooManyLines() {
+        SavedThird x = new SavedThird();
+        String lines = sixteenLines();
         int length = lines.length();
         Check.told(x, lines, 16);
         Check.told(x, lines + "  ", 16);
         Check.faulty(x, lines + " from 1 wide;", 4, length + 1);
-        Check.faulty(x, lines + "wide;", 4, length);
         Check.faulty(x, lines + "from 3 wide;", 4, length);
-        Check.faulty(x, lines + " !", 1, length + 1);
         Check.faulty(x, lines + "from", 4, length);
+        Check.faulty(x, lines + "from 99 !", 4, length);
+        for (String rule : new String[] {"share", "fixed", "stop", "again", "part", "wide", "narrow"}) {
+            SavedThird each = new SavedThird();
+            Check.faulty(each, lines + rule, 4, length);
+            Check.faulty(each, lines + "  " + rule + ";", 4, length + 2);
+        }
+        Check.due("the sixteen stay", x.count(6), 16);
+    }
+
+    private static void wrongTokensBehindTheLastLine() {
+        SavedThird x = new SavedThird();
+        String lines = sixteenLines();
+        int length = lines.length();
+        Check.told(x, lines, 16);
+        for (String wrong : new String[] {"fr", "fro", "froms", "wid", "wides", "third", "a", ";", "7", "0000"}) {
+            SavedThird each = new SavedThird();
+            Check.faulty(each, lines + wrong, 2, length);
+            Check.faulty(each, lines + "  " + wrong + " wide;", 2, length + 2);
+        }
+        Check.faulty(x, lines + " !", 1, length + 1);
+        Check.faulty(x, lines + "12345", 1, length);
         Check.due("the sixteen stay", x.count(6), 16);
     }
 
