@@ -4,15 +4,21 @@ import java.nio.charset.StandardCharsets;
 final class Check {
     private static int asked = 0;
     private static int wrong = 0;
+    private static String words = "";
 
     private Check() {
+    }
+
+    /** The document's own words, told with every wrong answer from here on. */
+    static void says(String itsWords) {
+        words = " (the document: " + itsWords + ")";
     }
 
     static void due(String call, long got, long want) {
         asked++;
         if (got != want) {
             wrong++;
-            System.out.println(call + " answered " + got + ", due is " + want);
+            System.out.println(call + " answered " + got + ", due is " + want + words);
         }
     }
 

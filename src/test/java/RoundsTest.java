@@ -1,5 +1,3 @@
-import java.util.Random;
-
 /** Promises 31 and 32: rounds and what waits on them. */
 public final class RoundsTest {
 
@@ -8,7 +6,6 @@ public final class RoundsTest {
         daysAreDividedUp();
         ties();
         toldWrongly();
-        againstAllRounds();
         Check.close("RoundsTest");
     }
 
@@ -81,45 +78,5 @@ public final class RoundsTest {
         for (int right : new int[] {12, 21, 102, 120, 201, 210}) {
             Check.due("waits(" + right + ")", x.waits(right), 0);
         }
-    }
-
-    private static void againstAllRounds() {
-        Random random = new Random(5);
-        for (int run = 0; run < 100; run++) {
-            int count = 1 + random.nextInt(6);
-            SavedThird x = new SavedThird();
-            for (int m = 0; m < count; m++) {
-                x.mine(random.nextInt(100), random.nextInt(100), 1, 1);
-                if (random.nextInt(4) > 0) {
-                    x.engine(m, 1, 1, 1, 1, 0);
-                }
-            }
-            for (int i = random.nextInt(8); i >= 0; i--) {
-                x.month();
-                x.read(random.nextInt(count));
-            }
-            for (int first = 0; first < count; first++) {
-                seekAll(x, count, first);
-            }
-        }
-    }
-
-    private static void seekAll(SavedThird x, int count, int first) {
-        int unit = (int) Math.pow(10, count - 1);
-        int least = Integer.MAX_VALUE;
-        int leastFigures = -1;
-        for (int figures = first * unit; figures < (first + 1) * unit; figures++) {
-            int waits = x.waits(figures);
-            if (waits >= 0 && waits < least) {
-                least = waits;
-                leastFigures = figures;
-            }
-        }
-        Check.due("the least round", x.round(first, 0), least);
-        int figures = 0;
-        for (int i = 0; i < count; i++) {
-            figures = figures * 10 + x.round(first, 10 + i);
-        }
-        Check.due("its mines", figures, leastFigures);
     }
 }

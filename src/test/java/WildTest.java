@@ -18,7 +18,8 @@ public final class WildTest {
             SavedThird two = new SavedThird();
             Random first = new Random(run);
             Random second = new Random(run);
-            for (int call = 0; call < 512; call++) {
+            // Some of these are several calls: together they stay below an object's 512.
+            for (int call = 0; call < 360; call++) {
                 long answer = anyCall(one, first);
                 Check.due("run " + run + ", call " + call, anyCall(two, second), answer);
             }
