@@ -59,6 +59,10 @@ public final class FaceTest {
             Check.holds(field + " is no static state", !isState);
         }
         Check.holds("the constants", constants.equals(List.of("BAD", "STATE", "FULL", "NONE")));
+        Check.due("BAD", SavedThird.BAD, -1);
+        Check.due("STATE", SavedThird.STATE, -2);
+        Check.due("FULL", SavedThird.FULL, -3);
+        Check.due("NONE", SavedThird.NONE, -4);
         Constructor<?>[] made = SavedThird.class.getDeclaredConstructors();
         Check.holds("one public constructor", made.length == 1 && Modifier.isPublic(made[0].getModifiers()));
         Check.holds("final", Modifier.isFinal(SavedThird.class.getModifiers()));

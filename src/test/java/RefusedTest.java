@@ -401,6 +401,7 @@ public final class RefusedTest {
         refused("a bad thirteenth engine", BAD, x -> x.engine(6, 0, 1, 1, 1, 0));
         refused("month 60", FULL, x -> x.month());
         refused("a sixty-first reading", FULL, x -> x.read(5));
+        refused("a sixty-first reading of an engine that is 5 months unread", FULL, x -> x.read(0));
         refused("a sixty-first reading of no mine", BAD, x -> x.read(6));
         refused("byte 201", FULL, x -> x.feed(0x6161616161616161L));
         refused("end behind the last byte", BAD, x -> x.end(201));
